@@ -92,11 +92,15 @@ public final class DecadesTest {
     private static void refusersAge() {
         CenturyPosts x = Check.with("c1;d0022;d0029");
         x.refuse(1, true);
+        Check.row("refusing", x, "awake", 0, 2, 2, 1, 0, 0, 1);
         Check.row("refusing", x, "how", 1, 1, 1, 3);
         Check.row("refusing", x, "age", 1, 1, 2, 2);
         Check.row("refusing", x, "guard", 0, 0, 0, -9, 0, 0, -9);
         Check.row("refusing", x, "age", 0, 0, 0, 1, 1, 1, 2);
         Check.row("refusing", x, "how", 0, 2, 2, 1, 2, 2, 1, 3);
+        x.refuse(0, true);
+        Check.row("all refuse", x, "awake", 0, 3, 3, 0);
+        Check.row("all refuse", x, "empty", 0, 1, 1, 1);
     }
 
     private static void givenUpPosts() {

@@ -194,6 +194,8 @@ public final class LandTest {
         Check.due("law 3", x.law(3), -2);
         Check.due("law -1", x.law(-1), -2);
         Check.due("the law stays", x.many(4), 1);
+        Check.due("law was 1", x.law(0), 1);
+        Check.due("law was 0", x.law(0), 0);
     }
 
     private static void refusing() {

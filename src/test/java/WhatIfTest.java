@@ -12,6 +12,8 @@ public final class WhatIfTest {
         readingsKept();
         laws();
         stubborn();
+        stubbornByTheLaw();
+        oddsAsTheFirstCall();
         named();
         opened();
         Check.end();
@@ -225,6 +227,27 @@ public final class WhatIfTest {
         Check.due("not any more", x.stubborn(), 0);
         x.back(1);
         Check.due("all", x.stubborn(), 7);
+    }
+
+    private static void stubbornByTheLaw() {
+        CenturyPosts x = Check.with("c2;d1099;d0099;d0099");
+        x.law(2);
+        x.will(1, 1, 0);
+        x.reading(0, 0, 2);
+        x.reading(1, 0, 0);
+        Check.due("1 refuses, by law 2 and in spite of the will", x.stubborn(), 2);
+        x.law(0);
+        Check.due("by law 0", x.stubborn(), 0);
+    }
+
+    private static void oddsAsTheFirstCall() {
+        CenturyPosts x = Check.with("c2;d0099;d0099;d0099;d0099;d0099;d0099");
+        oddsAre(x, 0, 57, 64);
+        x.giveUp(0, 0);
+        oddsAre(x, 0, 63, 64);
+        x = Check.with("c4;d0099;d0099;d0099;d0099;d0099;d0099");
+        Check.due("four of six", x.fewest(0), 15);
+        oddsAre(x, 0, 11, 32);
     }
 
     private static void named() {
