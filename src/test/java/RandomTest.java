@@ -2,8 +2,9 @@ import java.util.Random;
 
 /** All promises: long runs of chosen and of wild calls, each answer compared with the model's. */
 public final class RandomTest {
-    private static final int RUNS = 1500;
-    private static final int CALLS = 400;
+    private static final int RUNS = 6000;
+    /** Behind 512 calls the document leaves all answers free; the dearest turn (a text) makes fewer than 64. */
+    private static final int CALLS = 512 - 64;
     private static final int[] EDGES = {-1, -9, -2, 40, 41, 60, 61, 4, 6, 7, 8, 9, 100, -100, Integer.MAX_VALUE, Integer.MIN_VALUE};
 
     private final Random random;
@@ -11,6 +12,7 @@ public final class RandomTest {
     private final Model m = new Model();
     private final int wild;
     private String call = "";
+    private int made = 0;
 
     private RandomTest(long seed) {
         random = new Random(seed);
@@ -26,11 +28,10 @@ public final class RandomTest {
     /** False: an answer was not the model's (the run ends there). */
     private boolean run(int run) {
         StringBuilder told = new StringBuilder();
-        int left = CALLS;
-        while (left > 0) {
-            boolean anew = left == CALLS - 9 || random.nextInt(60) == 0;
+        for (int turn = 0; made <= CALLS; turn++) {
+            boolean anew = turn == 9 || random.nextInt(90) == 0;
             long[] both = anew ? text() : next();
-            left--;
+            made += 3;
             told.append(call).append(' ');
             if (both[0] != both[1]) {
                 Check.due("run " + run + ": " + told, both[0], both[1]);
@@ -79,6 +80,7 @@ public final class RandomTest {
         int i = random.nextInt(10);
         x.sheet(k, lane, 60);
         m.sheet(k, lane, 60);
+        made += 1 + b.length();
         for (int c = 0; c < b.length(); c++) {
             x.put(k, i + c, b.charAt(c));
             m.put(k, i + c, b.charAt(c));
@@ -144,6 +146,7 @@ public final class RandomTest {
         int lane = random.nextInt(3);
         x.sheet(k, lane, 20);
         m.sheet(k, lane, 20);
+        made += 19;
         StringBuilder cells = new StringBuilder();
         for (int c = 0; c < 18; c++) {
             int v = c % 3 == 0 ? post() : c % 3 == 1 ? person() : decade();
