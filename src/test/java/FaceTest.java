@@ -7,13 +7,16 @@ import java.nio.file.Files;
 import java.nio.file.Path;
 import java.util.ArrayList;
 import java.util.List;
+import java.util.Map;
 import java.util.Set;
+import java.util.TreeMap;
 import java.util.TreeSet;
 import java.util.regex.Matcher;
 import java.util.regex.Pattern;
 
 /** The public face, and the rules of LANGUAGE.md that can be looked up in the source and the class. */
 public final class FaceTest {
+    private static final int MOST_DEEP = 8;
     private static final String FACE = "int land(int,int,int,int);int ofPerson(int,int);int law(int);int refuse(int,boolean);"
         + "int will(int,int,int);int burn(int);int giveUp(int,int);int guard(int,int);int how(int,int);int age(int,int);"
         + "int empty(int);int empties(int);int awake(int);int slept(int,int);int fewest(int);int help(int);"
@@ -26,7 +29,9 @@ public final class FaceTest {
         constants();
         privateNames();
         nestedClasses();
-        source(Files.readString(Path.of("src/main/java/CenturyPosts.java")));
+        String text = Files.readString(Path.of("src/main/java/CenturyPosts.java"));
+        source(text);
+        methods(bare(text));
         Check.end();
     }
 
@@ -98,8 +103,13 @@ public final class FaceTest {
         Check.holds(c.getSimpleName() + " has at most some twenty fields", own <= 20);
     }
 
+    /** The source without its comments and signs. */
+    private static String bare(String text) {
+        return text.replaceAll("(?s)/\\*.*?\\*/", " ").replaceAll("//[^\n]*", " ").replaceAll("'.'", "0");
+    }
+
     private static void source(String text) {
-        String bare = text.replaceAll("(?s)/\\*.*?\\*/", " ").replaceAll("//[^\n]*", " ").replaceAll("'.'", "0");
+        String bare = bare(text);
         String[] never = {"throw", "throws", "try", "catch", "synchronized", "assert", "package", "protected", "var", "Object", "System.out"};
         for (String word : never) Check.holds("no " + word, !Pattern.compile("\\b" + Pattern.quote(word) + "\\b").matcher(bare).find());
         Check.holds("no lambda, no method reference", !bare.contains("->") && !bare.contains("::"));
@@ -109,5 +119,41 @@ public final class FaceTest {
         Set<String> listed = Set.of("System.arraycopy", "Arrays.fill", "Integer.bitCount", "Math.abs", "Math.max", "Long.MIN_VALUE");
         Check.holds("the library used: " + used, listed.containsAll(used));
         Check.holds("signs 1 to 127", text.chars().allMatch(c -> c > 0 && c < 128));
+    }
+
+    /** Short methods, no recursion, calls at most eight deep (the library's, too). */
+    private static void methods(String bare) {
+        Map<String, String> bodies = new TreeMap<>();
+        Matcher heads = Pattern.compile("\\n +[\\w ]*?\\b(\\w+)\\([^()]*\\) \\{").matcher(bare);
+        while (heads.find()) {
+            if (Set.of("if", "for", "while", "switch").contains(heads.group(1))) continue;
+            String body = bodyFrom(bare, heads.end());
+            Check.holds(heads.group(1) + " stays short", body.lines().count() < 60);
+            // Constructors of one name, and methods of one name in two classes, count together.
+            bodies.merge(heads.group(1), body, String::concat);
+        }
+        Check.holds("the methods were found", bodies.size() > 80 && bodies.containsKey("help") && bodies.containsKey("lawfulOf"));
+        for (String name : bodies.keySet()) {
+            int deep = depth(name, bodies, 1);
+            Check.holds(name + " goes at most eight deep: " + deep, deep <= MOST_DEEP);
+        }
+    }
+
+    private static String bodyFrom(String bare, int start) {
+        int open = 1;
+        int at = start;
+        for (; at < bare.length() && open > 0; at++) {
+            if (bare.charAt(at) == '{') open++;
+            if (bare.charAt(at) == '}') open--;
+        }
+        return bare.substring(start, at);
+    }
+
+    private static int depth(String name, Map<String, String> bodies, int level) {
+        if (level > MOST_DEEP || !bodies.containsKey(name)) return level;
+        int deepest = level;
+        Matcher calls = Pattern.compile("\\b(\\w+)\\(").matcher(bodies.get(name).replaceAll("\\b(if|for|while|switch) \\(", " "));
+        while (calls.find()) deepest = Math.max(deepest, depth(calls.group(1), bodies, level + 1));
+        return deepest;
     }
 }
